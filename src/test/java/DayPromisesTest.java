@@ -13,6 +13,7 @@ public final class DayPromisesTest {
         order();
         ink();
         torn();
+        changes();
         obeyed();
         days();
         unread();
@@ -110,6 +111,34 @@ public final class DayPromisesTest {
         wall.tear(3, 0);
         dueAt(wall, 3, 0, NONE, NONE, 0, 0, 0, 0);
         dueAt(wall, 3, 1, 3, 1, 0, 2, 18, 7);
+    }
+
+    /** What was answered ahead of a change is not answered behind it. */
+    private static void changes() {
+        PosterWall wall = Check.wall("000k9a", "", "a");
+        dueAt(wall, 3, 0, 0, 0, 0, 1, 9, 6);
+        wall.type(0, 'b');
+        dueAt(wall, 3, 1, 1, 0, 0, 1, 9, 6);
+        wall.type(1, '1');
+        dueAt(wall, 3, 0, 0, 0, 0, 1, 9, 7);
+        wall.undo(1);
+        dueAt(wall, 3, 0, 0, 0, 0, 1, 9, 6);
+        wall.tear(3, 0);
+        dueAt(wall, 3, 0, NONE, NONE, 0, 0, 0, 0);
+        wall.back();
+        dueAt(wall, 3, 0, 0, 0, 0, 1, 9, 6);
+        wall.sheet(0, 0, 2);
+        wall.read(0);
+        wall.lay(0, 0, 0, 2);
+        wall.read(0);
+        dueAt(wall, 3, 0, NONE, NONE, 0, 0, 0, 0);
+        wall.wipe(0);
+        dueAt(wall, 3, 1, NONE, NONE, 0, 0, 0, 0);
+        due("obeyed", wall.obeyed(0), 0);
+        Check.type(wall, 0, "000k9a");
+        due("obeyed", wall.obeyed(0), 1);
+        wall.type(2, 'b');
+        due("obeyed", wall.obeyed(0), 0);
     }
 
     private static void obeyed() {

@@ -41,6 +41,9 @@ public final class PlanPromisesTest {
         dueRip(Check.wall(three, "", "a"), 1, NONE, NONE, NONE);
         dueRip(Check.wall(three, "", "a"), 0, 0, NONE, NONE);
         dueRip(Check.wall("000k9a;010k9b;020k1c", "001", "a"), 2, 1, 0, NONE);
+        // Each trial begins with what was there ahead of the day: of which posters, with what ink.
+        dueRip(Check.wall("004k9ah;014k9bg;024k9c;035k1f", "0001", "....ag"), 3, 2, 4, 4);
+        dueRip(Check.wall("004k9a;004k9b;004k9c;005r9h", "", "....ah"), 1, 2, 4, 4);
         // Behind all others, even when there are eight.
         PosterWall wall = Check.wall(three, "", "a");
         for (int i = 0; i < 8; i++) wall.tear(i < 7 ? 0 : 3, i < 7 ? 5 : 0);
@@ -65,6 +68,7 @@ public final class PlanPromisesTest {
         due("without a law", Check.wall(two, "", "").wet(2), 0);
         due("the middle one", Check.wall(two + ";020k4c", "", "b").wet(2), 0b0001110000);
         due("nine alone", Check.wall("000k9a;000k9b", "", "a").wet(0), 0b1000000000);
+        due("at the last column, whatever was tried ahead of it", Check.wall("005r1h", "", ".....h").wet(2), 0b1111111111);
         due("other days stay dry", Check.wall("000r1a", "", "a").wet(3), 0);
         due("other days stay wet", Check.wall("000r1a", "999", "a").wet(3), 0b1111111111);
         PosterWall torn = Check.wall(two, "", "a");

@@ -76,7 +76,19 @@ public final class SeenPromisesTest {
         due("the others", wall.never(), 6);
         wall.seen(4, 0, 0);
         due("the second alone", wall.never(), 2);
+        wall.type(1, '0');
         due("tears stay", wall.at(3, 0, 3), 0);
+        PosterWall columns = Check.wall("002k9ab;002k9cd", "", "");
+        columns.tear(4, 2);
+        columns.tear(4, 3);
+        columns.seen(6, 2, 0);
+        due("a torn one at one column, the other at none", columns.never(), 2);
+        columns.seen(6, 3, 3);
+        due("d at the other", columns.never(), 2);
+        columns.seen(6, 2, 2);
+        due("not a and c", columns.never(), 0);
+        columns.type(1, '0');
+        due("the last tear stays", columns.at(4, 3, 3), 1);
     }
 
     private static void thicks() {
@@ -122,6 +134,8 @@ public final class SeenPromisesTest {
     private static void ask() {
         CHECK.promise("25");
         due("where its word is", Check.wall("003k9a", "", "").ask(0), 3);
+        due("a by all years", Check.wall("003k9a", "99999999999999999999", "").ask(0), 0);
+        due("19 is less than 20", Check.wall("191y9c;001k9b", "", "").ask(1), 1);
         due("of like ones the least", Check.wall("001k9aa", "", "").ask(0), 1);
         PosterWall wall = Check.wall("000k9a;001k9ab", "", "");
         due("the first", wall.ask(0), 0);
@@ -167,6 +181,12 @@ public final class SeenPromisesTest {
         dueShower(twice, 0, 0, 1, 1, 1);
         dueShower(twice, 4, 0, 0, 1, 4);
         dueShower(Check.wall("000k2a;000k2b", "1", "a"), 9, 9, 19, 0, 1);
+        dueShower(Check.wall("000k1a;000k1b", "", "a"), 9, 9, 19, 0, 1);
+        PosterWall sixth = Check.wall("000k2a;000k2b", "000003", "a");
+        dueShower(sixth, 8, 0, 4, 0, 1);
+        dueShower(sixth, 8, 0, 5, 1, 1);
+        dueShower(sixth, 8, 4, 5, 1, 1);
+        dueShower(sixth, 8, 5, 5, 1, 2);
         dueShower(Check.wall("000k2a;000k2b", "3333333333", "a"), 1, 9, 19, 522861237151L, 1099511627776L);
         dueShower(Check.wall("000k2a;000k2b", "33333333333333333333", "a"), 1, 9, 19, 1, 1);
         dueShower(Check.wall("000k2a;000k2b", "33333333333333333333", "a"), 1, 9, 9, 522861237151L, 1099511627776L);
@@ -195,6 +215,7 @@ public final class SeenPromisesTest {
         int[][] want = {{0, 20, 13}, {0, 10, 7}, {0, 1, 0}, {0, 2, 1}, {0, 0, 0}, {-1, 20, 11}, {7, 20, 7},
             {Integer.MIN_VALUE, 20, 12}, {Integer.MAX_VALUE, 20, 11}, {1, 5, 3}};
         for (int[] w : want) due("season(" + w[0] + ", " + w[1] + ", 0)", wall.season(w[0], w[1], 0), w[2]);
+        due("dry behind them", Check.wall("000r1a;000r1b", "999", "b").season(0, 1, 0), 3);
         due("a is unread without rain", wall.season(0, 0, 1), 1);
         due("both are read", wall.season(0, 2, 1), 0);
         due("three unread", Check.wall("000k9a;000k9b;000k9c;000k9d", "", "").season(3, 0, 1), 3);

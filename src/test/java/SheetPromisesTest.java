@@ -217,6 +217,21 @@ public final class SheetPromisesTest {
         wall.type(2, 'x');
         due("with a fault", wall.digest(), composed(wall));
         due("of a new one", new PosterWall().digest(), composed(new PosterWall()));
+        PosterWall rich = Check.wall("000k1a;000k1b;041k3cc;042k2dd;090k1b;185k1e;190k4f", "10151022070000000023", "b");
+        rich.tear(4, 0);
+        rich.tear(9, 1);
+        rich.seen(9, 0, 1);
+        due("where most is not 0", rich.digest(), composed(rich));
+        PosterWall chance = Check.wall("000r1ab;000k4cd;040y3aa;090r2c", "3421001050000000041", "c");
+        chance.tear(1, 0);
+        chance.tear(4, 0);
+        due("where there is a chance", chance.digest(), composed(chance));
+        String[][] others = {{"001k9a;001k9b;002k9a", "01", ".aa"}, {"000k2a;000k2b", "33333333", "a"},
+            {"000k2a;000k2b", "000000003", "a"}, {"150k9a;150k2b", "", "b"}};
+        for (String[] o : others) {
+            PosterWall other = Check.wall(o[0], o[1], o[2]);
+            due("of " + o[0], other.digest(), composed(other));
+        }
     }
 
     private static long composed(PosterWall x) {

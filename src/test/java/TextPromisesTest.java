@@ -70,6 +70,7 @@ public final class TextPromisesTest {
         due("text 0", wall.wipe(0), 7);
         due("no posters", wall.count(0), 0);
         due("nothing to look at", wall.at(0, 0, 1), NONE);
+        due("an empty one is well", wall.fault(0), NONE);
         due("text 2", wall.wipe(2), 3);
         due("no law", wall.law(0), NONE);
         Check.type(wall, 1, "x");
@@ -235,6 +236,9 @@ public final class TextPromisesTest {
             due("tears", wall.count(6), 1);
         }
         PosterWall wall = new PosterWall();
+        wall.sheet(3, 0, 4);
+        due("all of them", wall.read(3), 2);
+        due("back", wall.back() + wall.back(), 1);
         wall.sheet(3, 0, 60);
         due("as long as there is room", wall.read(3), 8);
         due("no room", wall.read(3), 0);
