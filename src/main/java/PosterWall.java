@@ -923,17 +923,21 @@ public final class PosterWall {
             System.arraycopy(other.inks, 0, inks, 0, COLUMNS * BILLS);
         }
 
-        void put(int column, int bill) {
-            if (isBelow(column, COLUMNS) && heights[column] < BILLS) {
-                int place = column * BILLS + heights[column];
-                owners[place] = bill;
-                inks[place] = FRESH_INK;
-                heights[column]++;
+        /** A letter on each COLUMN, as far as there are COLUMNS. */
+        void put(int owner, Bill bill) {
+            for (int i = 0; i < bill.size; i++) {
+                int column = bill.column + i;
+                if (column >= 0 && column < COLUMNS && heights[column] < BILLS) {
+                    int place = column * BILLS + heights[column];
+                    owners[place] = owner;
+                    inks[place] = FRESH_INK;
+                    heights[column]++;
+                }
             }
         }
 
         void pull(int column) {
-            if (isBelow(column, COLUMNS) && heights[column] > 0) {
+            if (column >= 0 && column < COLUMNS && heights[column] > 0) {
                 heights[column]--;
             }
         }
@@ -987,74 +991,60 @@ public final class PosterWall {
             }
             for (int i = 0; i < plan.billCount && i < BILLS; i++) {
                 if (plan.bills[i].day == day) {
-                    put(i, plan.bills[i]);
+                    pile.put(i, plan.bills[i]);
                 }
             }
             for (int column = 0; column < COLUMNS; column++) {
-                look(day, column, rain);
+                keepFacts(day, column, layerSeen(column, rain));
             }
             if (rain == 0) {
                 bleach();
             }
         }
 
-        private void put(int index, Bill bill) {
-            for (int i = 0; i < bill.size && bill.column + i < COLUMNS; i++) {
-                pile.put(bill.column + i, index);
+        /** How far down the RAIN lets one look, but never through the lowest LAYER; NONE if there is none. */
+        private int layerSeen(int column, int rain) {
+            int left = rain;
+            for (int layer = pile.heights[column] - 1; layer > 0; layer--) {
+                int owner = pile.owners[column * BILLS + layer];
+                int thick = owner >= 0 && owner < BILLS ? plan.bills[owner].thick : 0;
+                if (left < thick) {
+                    return layer;
+                }
+                left -= thick;
             }
+            return pile.heights[column] > 0 ? 0 : NONE;
         }
 
-        private void look(int day, int column, int rain) {
+        private void keepFacts(int day, int column, int layer) {
             int place = (day * COLUMNS + column) * FACTS;
             if (place < 0 || place + FACTS > facts.length) {
                 return;
             }
             int layers = pile.heights[column];
+            int thickness = 0;
+            for (int i = 0; i < layers; i++) {
+                int owner = pile.owners[column * BILLS + i];
+                thickness += owner >= 0 && owner < BILLS ? plan.bills[owner].thick : 0;
+            }
+            facts[place + LAYERS] = layers;
+            facts[place + THICKNESS] = thickness;
             facts[place + READ] = NONE;
             facts[place + OWNER] = NONE;
             facts[place + ABOVE] = 0;
-            facts[place + LAYERS] = layers;
-            facts[place + THICKNESS] = thickness(column);
             facts[place + INK] = 0;
-            if (layers > 0) {
-                int layer = layerSeen(column, rain);
+            if (layer >= 0 && layer < layers) {
                 int owner = pile.owners[column * BILLS + layer];
                 int ink = pile.inks[column * BILLS + layer];
                 facts[place + OWNER] = owner;
                 facts[place + ABOVE] = layers - 1 - layer;
                 facts[place + INK] = ink;
-                if (ink > 0 && isBelow(owner, BILLS)) {
-                    facts[place + READ] = plan.bills[owner].letter(column - plan.bills[owner].column);
+                if (ink > 0 && owner >= 0 && owner < BILLS) {
+                    Bill bill = plan.bills[owner];
+                    int i = column - bill.column;
+                    facts[place + READ] = i >= 0 && i < bill.word.length ? bill.word[i] : NONE;
                 }
             }
-        }
-
-        /** How far the RAIN lets one look down, but never through the lowest LAYER. */
-        private int layerSeen(int column, int rain) {
-            int left = rain;
-            int layer = pile.heights[column] - 1;
-            while (layer > 0) {
-                int thick = thickOf(column, layer);
-                if (left < thick) {
-                    return layer;
-                }
-                left -= thick;
-                layer--;
-            }
-            return 0;
-        }
-
-        private int thickness(int column) {
-            int sum = 0;
-            for (int layer = 0; layer < pile.heights[column]; layer++) {
-                sum += thickOf(column, layer);
-            }
-            return sum;
-        }
-
-        private int thickOf(int column, int layer) {
-            int owner = pile.owners[column * BILLS + layer];
-            return isBelow(owner, BILLS) ? plan.bills[owner].thick : 0;
         }
 
         private void bleach() {
@@ -1063,7 +1053,7 @@ public final class PosterWall {
                 if (top >= 0) {
                     int place = column * BILLS + top;
                     int owner = pile.owners[place];
-                    int loss = isBelow(owner, BILLS) ? 3 - plan.bills[owner].colour : 0;
+                    int loss = owner >= 0 && owner < BILLS ? 3 - plan.bills[owner].colour : 0;
                     pile.inks[place] = Math.max(0, pile.inks[place] - loss);
                 }
             }
