@@ -15,10 +15,16 @@ final class Check {
 
     void due(String call, long got, long want) {
         asked++;
-        if (got != want) {
-            wrong++;
-            System.out.println("promise " + promise + ": " + call + " answered " + got + ", due is " + want);
-        }
+        if (got != want) fault(call + " answered " + got + ", due is " + want);
+    }
+
+    void fault(String what) {
+        wrong++;
+        System.out.println("promise " + promise + ": " + what);
+    }
+
+    int asked() {
+        return asked;
     }
 
     /** Tells the sum, and ends the program with 1 if something was wrong. */
