@@ -224,6 +224,8 @@ public final class RulesEdgesTest {
         dueStick(Check.wall("000k1aaaa;004k1aa;000k1bbbb", "", "aaaaaa"), 2, 1, 0, 0);
         dueStick(Check.wall("000k1a", "", "b"), 0, NONE, NONE, NONE);
         dueStick(Check.wall("000k1a", "", ""), 0, NONE, NONE, NONE);
+        // Without it all six letters are read on day 19; wherever and whenever it is stuck, it hides one of them.
+        dueStick(Check.wall("001k9aaaa;005k9a;190k9a;000k9bb", DAMP, "aaaaaa"), 3, NONE, NONE, NONE);
         // A second letter has no column to the right of the last one.
         dueStick(Check.wall("000k1ab", "", "b"), 0, NONE, NONE, NONE);
         PosterWall x = Check.wall("195k1a", "", "a");
@@ -275,6 +277,13 @@ public final class RulesEdgesTest {
         last.seen(1, 0, 8);
         due("all but the eighth", last.never(), 127);
         due("all are as they were", last.count(6), 8);
+        last.undo(1);
+        due("and the eighth tears", last.at(1, 0, 3), 0);
+        PosterWall first = Check.wall("000k9a", DAMP, "");
+        first.tear(1, 0);
+        first.never();
+        first.undo(1);
+        due("and the first tears", first.at(1, 0, 3), 0);
         PosterWall two = Check.wall("000k9a", WET, "");
         two.tear(1, 0);
         two.tear(1, 0);
@@ -332,6 +341,8 @@ public final class RulesEdgesTest {
         due("two years", two.was(0, 1), 3 << 10);
         due("1 is less than 2", two.ask(0), 5);
         due("the eighth", Check.wall("190k9a;".repeat(7) + "003k9a", "", "").ask(7), 3);
+        // c of day 19 lies at column 1 on what is older, so by 19 years; elsewhere nothing is read by 20.
+        due("19 is less than 20", Check.wall("191y9c;001k9b", "", "").ask(1), 1);
     }
 
     private static void dueChance(PosterWall x, int c, int last, int day, long above, long below) {

@@ -324,6 +324,17 @@ public final class SheetEdgesTest {
         due("some", Edges.some().digest(), composed(Edges.some()).longValue());
         due("full", Edges.full().digest(), composed(Edges.full()).longValue());
         due("faults", Check.wall("0", "x", "y").digest(), composed(Check.wall("0", "x", "y")).longValue());
+        due("obeyed", obeyed().digest(), composed(obeyed()).longValue());
+        due("by chance", byChance().digest(), composed(byChance()).longValue());
+        // By a tear at column 1; by rain up to day 7 and on day 8; on day 19 alone; by the fifteenth lot of a season and
+        // by the dry days behind it.
+        String[][] others = {{"001k9a;001k9b;002k9a", "01", ".aa"}, {"000k2a;000k2b", "33333333", "a"},
+            {"000k2a;000k2b", "000000003", "a"}, {"190k9a", "", "a"}, {"140k9a;140k1b", "", "a"},
+            {"150k9a;150k2b", "", "b"}};
+        for (String[] o : others) {
+            PosterWall other = Check.wall(o[0], o[1], o[2]);
+            due("of " + o[0], other.digest(), composed(other).longValue());
+        }
         PosterWall found = Edges.some();
         found.lose(3);
         found.lay(0, 0, 0, 1);
@@ -331,9 +342,8 @@ public final class SheetEdgesTest {
         PosterWall twice = Edges.full();
         due("it changes nothing", twice.digest(), twice.digest());
         // What each call tells is in it: one thing more of each kind makes it another.
-        long[] others = {changed(0), changed(1), changed(2), changed(3), changed(4)};
-        for (int i = 0; i < others.length; i++) {
-            due("change " + i + " is told", others[i] != Edges.some().digest() ? 1 : 0, 1);
+        for (int how = 0; how < 5; how++) {
+            due("change " + how + " is told", changed(how) != Edges.some().digest() ? 1 : 0, 1);
         }
 
         E.says("as longs that wrap.");
@@ -345,6 +355,22 @@ public final class SheetEdgesTest {
             if (wrapped.testBit(63)) wrapped = wrapped.subtract(long64);
             due("its lowest 64 bits", x.digest(), wrapped.longValueExact());
         }
+    }
+
+    /** Most of what is told in a digest is neither 0 nor 1 here. */
+    private static PosterWall obeyed() {
+        PosterWall x = Check.wall("000k1a;000k1b;041k3cc;042k2dd;090k1b;185k1e;190k4f", "10151022070000000023", "b");
+        x.tear(4, 0);
+        x.tear(9, 1);
+        x.seen(9, 0, 1);
+        return x;
+    }
+
+    private static PosterWall byChance() {
+        PosterWall x = Check.wall("000r1ab;000k4cd;040y3aa;090r2c", "3421001050000000041", "c");
+        x.tear(1, 0);
+        x.tear(4, 0);
+        return x;
     }
 
     private static long changed(int how) {

@@ -329,6 +329,8 @@ public final class TermsEdgesTest {
             for (int rain = 0; rain <= 9; rain++) {
                 PosterWall x = Check.wall("000k5a;000k" + thick + "b", "" + rain, "");
                 dueRead(x, 0, rain >= thick ? 0 : 1, rain >= thick ? 1 : 0);
+                PosterWall firstOnTop = Check.wall("010k" + thick + "b;000k5a", "0" + rain, "");
+                dueRead(firstOnTop, 1, rain >= thick ? 0 : 1, rain >= thick ? 1 : 0);
             }
         }
 

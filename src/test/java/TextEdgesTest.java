@@ -71,6 +71,10 @@ public final class TextEdgesTest {
         Check.type(order, 1, "12");
         due("the first byte is the first", order.rain(0), 1);
         due("the second is behind it", order.rain(1), 2);
+        PosterWall wall = Check.wall("000k1", "", "a");
+        due("not ended yet", wall.obeyed(0), 0);
+        wall.type(0, 'a');
+        due("ended by a byte more", wall.obeyed(0), 1);
 
         E.says("BAD;");
         for (int text = 0; text < 3; text++) {
@@ -111,6 +115,10 @@ public final class TextEdgesTest {
         for (int text = 0; text < 3; text++) x.wipe(text);
         due("posters, rains, letters", x.count(0) + x.count(1) + x.count(2), 0);
         due("tears and seen stay", x.count(6) * 10 + x.count(7), 88);
+        PosterWall wall = Check.wall("000k1a", "", "a");
+        due("ahead of it", wall.obeyed(0), 1);
+        wall.wipe(0);
+        due("behind it", wall.obeyed(0), 0);
 
         E.says("BAD.");
         E.outside("a text", 0, 2, Edges::some, (y, n) -> y.wipe(n), BAD);
@@ -135,6 +143,10 @@ public final class TextEdgesTest {
         PosterWall mended = Check.wall("", "1x", "");
         mended.undo(1);
         due("is undone", mended.fault(1), NONE);
+        PosterWall wall = Check.wall("000k1ab", "", "ab");
+        due("ahead of it", wall.obeyed(0), 1);
+        wall.undo(0);
+        due("behind it", wall.obeyed(0), 0);
 
         E.says("BAD;");
         E.outside("a text", 0, 2, Edges::some, (y, n) -> y.undo(n), BAD);
@@ -228,6 +240,7 @@ public final class TextEdgesTest {
         torn.tear(19, 0);
         due("on its day", torn.at(19, 0, 3), 0);
         due("not ahead of it", torn.at(18, 0, 3), 1);
+        due("not torn yet", torn.at(1, 5, 3), 1);
         torn.tear(1, 5);
         due("at its column", torn.at(1, 5, 3), 0);
         due("not at another", torn.at(1, 0, 3), 1);
@@ -253,6 +266,7 @@ public final class TextEdgesTest {
         PosterWall y = Check.wall("000k9a;005k9b", "", "");
         y.tear(2, 5);
         y.tear(1, 0);
+        due("torn", y.at(1, 0, 3), 0);
         due("the last told, not the last by day", y.back(), 1);
         due("this one is undone", y.at(1, 0, 3), 1);
         due("the other is not", y.at(2, 5, 3), 0);
