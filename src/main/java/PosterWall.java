@@ -1054,7 +1054,7 @@ public final class PosterWall {
                     int place = column * BILLS + top;
                     int owner = pile.owners[place];
                     int loss = owner >= 0 && owner < BILLS ? 3 - plan.bills[owner].colour : 0;
-                    pile.inks[place] = Math.max(0, pile.inks[place] - loss);
+                    pile.inks[place] = pile.inks[place] > loss ? pile.inks[place] - loss : 0;
                 }
             }
         }

@@ -21,18 +21,24 @@ final class Edges {
     private String toCome;
     private int askedAhead = -1;
 
-    /** The document from the one words to the other ones. */
+    /** The document from the one words to the other ones, or to its end if these are none. */
     Edges(String name, String from, String to) {
         check = new Check(name);
         toCome = documentIsHere ? part(from, to) : "";
         if (!documentIsHere) System.out.println(name + ": no " + DOCUMENT + ", so no look at its words");
     }
 
+    /** Another part of it, behind all of the one ahead. */
+    void then(String from, String to) {
+        nothingToCome();
+        toCome = documentIsHere ? part(from, to) : "";
+    }
+
     private static String part(String from, String to) {
         try {
             String all = Files.readString(DOCUMENT);
             int begin = all.indexOf(from);
-            int end = all.indexOf(to, begin + 1);
+            int end = to.isEmpty() ? all.length() : all.indexOf(to, begin + 1);
             if (begin < 0 || end < 0) throw new IllegalStateException(DOCUMENT + " has no " + from + " to " + to);
             return plain(all.substring(begin, end));
         } catch (IOException e) {
@@ -72,9 +78,14 @@ final class Edges {
         check.due(call, got, want);
     }
 
-    void end() {
+    private void nothingToCome() {
         lookBack();
         if (!toCome.isEmpty()) check.fault("without a test: " + head(toCome));
+        askedAhead = -1;
+    }
+
+    void end() {
+        nothingToCome();
         check.end();
     }
 
